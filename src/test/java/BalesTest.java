@@ -183,8 +183,23 @@ final class BalesTest {
         Check.is("another SELLER", x.off(1, 0), 0);
         Check.text(x, 0, 1, "l");
         Check.is("all dry", x.off(1, 0), 1000);
+        dryPounds();
         Check.is("not this one", Check.text(x, 0, 1, "l+"), -3);
         Check.is("the CONTRACT stays", x.off(1, 0), 1000);
+    }
+
+    private static void dryPounds() {
+        RagTown x = withSorts(1);
+        x.bale(3, 0, 1000, 10);
+        Check.text(x, 0, 3, "l");
+        Check.is("the most weight, the most damp", x.look(0, 0, 0, 9999, 1000), 1);
+        Check.is("no DRY pound", x.off(0, 0), 1000);
+        x.look(0, 0, 0, 1998, 500);
+        Check.is("999 DRY pounds", x.off(0, 0), 1);
+        x.look(0, 0, 0, 1999, 500);
+        Check.is("999 and a half, cut", x.off(0, 0), 1);
+        x.look(0, 0, 0, 9999, 0);
+        Check.is("far too heavy", x.off(0, 0), 0);
     }
 
     private static void dues() {

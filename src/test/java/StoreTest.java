@@ -6,6 +6,7 @@ final class StoreTest {
         moths();
         wipers();
         splits();
+        fullTown();
         Check.finish();
     }
 
@@ -56,6 +57,11 @@ final class StoreTest {
         Check.is("no LOT", x.count(5), 0);
         Check.is("nothing left", x.fire(1000), 0);
         Check.is("lost of the first", x.of(0, 5), 100);
+        RagTown y = new RagTown();
+        y.sort(1, 1, 1, 1, 0, 0, -1);
+        y.bale(0, 0, 1001, 1);
+        y.open(0, 0, 1, 1, 1001, 0);
+        Check.is("a thousandth of a pound is one", y.fire(1), 2);
     }
 
     private static void moths() {
@@ -126,5 +132,33 @@ final class StoreTest {
         Check.noSuchElement("its part was never found", () -> y.split(1, 0));
         y.price(0, 0, 4);
         Check.is("dearer unsplit", y.split(0, 0), -24 * 5000);
+    }
+
+    /** As much of everything as there can be at once. */
+    private static void fullTown() {
+        RagTown x = new RagTown();
+        for (int s = 0; s < 16; s++) {
+            x.sort(255, 255, 255, 99, 1000, 1000, s - 1);
+        }
+        for (int b = 0; b < 24; b++) {
+            x.bale(b % 4, b % 8, 9999, 999);
+            Check.is("open " + b, x.open(b, b % 6, 1, 16, 600, 0), 399);
+        }
+        Check.is("all LOTS", x.count(5), 384);
+        Check.is("all pounds", x.store(0, 1), 384 * 600);
+        for (int s = 0; s < 12; s++) {
+            x.part(s, 1);
+        }
+        Check.is("all BALES burn", x.fire(990), 384 * 594);
+        Check.is("a CLOTH of all BALES", x.make(12 * 24 * 6), 0);
+        Check.is("led to all", x.led(0), 24);
+        Check.is("numbers of the ROW", x.count(9), 48);
+        Check.is("the last BALE", x.row(46), 23);
+        Check.is("its pounds", x.row(47), 72);
+        x.fault(0, 1);
+        Check.is("the first of all", x.suspects(), 1);
+        Check.row("the first of all", x, 0);
+        Check.is("LOTS left", x.count(5), 96);
+        Check.is("lost of the last", x.of(23, 5), 16 * 594);
     }
 }
