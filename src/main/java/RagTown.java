@@ -872,7 +872,9 @@ public final class RagTown {
     private static final class Reader {
         static final int NEGATE = '~';
         static final int DIGITS_MOST = 4;
-        static final int COMPARING = 2;
+        static final int COMPARING = 3;
+        /** The greatest level of an operator between two things; those ahead of a thing stand above it. */
+        static final int JOINING_MOST = 5;
         /** Each sign gives one code at most, and the end of the text one more. */
         static final int CODE_MOST = TEXT_MOST + 4;
 
@@ -1027,33 +1029,34 @@ public final class RagTown {
             }
         }
 
-        /** The document sets | and & side by side, so they bind alike. */
+        /** How an operator binds: the document tells them from those that bind least, | first and & behind it. */
         private static int level(int sign) {
             switch (sign) {
                 case '|':
-                case '&':
                     return 1;
+                case '&':
+                    return 2;
                 case '<':
                 case '>':
                 case '=':
                     return COMPARING;
                 case '+':
                 case '-':
-                    return 3;
+                    return 4;
                 case '*':
                 case '/':
                 case '%':
-                    return 4;
+                    return JOINING_MOST;
                 case '!':
                 case NEGATE:
-                    return 5;
+                    return JOINING_MOST + 1;
                 default:
                     return 0;
             }
         }
 
         private static boolean joins(int sign) {
-            return lies(level(sign), 1, 4);
+            return lies(level(sign), 1, JOINING_MOST);
         }
 
         private static boolean isDigit(int sign) {

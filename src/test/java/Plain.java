@@ -3,7 +3,8 @@ import java.util.function.IntUnaryOperator;
 /** A second reading of the texts, by calls of itself, for the tests to set beside the program's. */
 final class Plain {
     private static final String LETTERS = "ldkoqrgbswvnmpze";
-    private static final String[] LEVELS = {"|&", "<>=", "+-", "*/%"};
+    private static final String[] LEVELS = {"|", "&", "<>=", "+-", "*/%"};
+    private static final int COMPARING = 2;
 
     private final String text;
     private final IntUnaryOperator letter;
@@ -60,7 +61,7 @@ final class Plain {
             return thing();
         }
         int v = join(level + 1);
-        for (int turn = 0; sees(LEVELS[level]) && (level != 1 || turn == 0); turn++) {
+        for (int turn = 0; sees(LEVELS[level]) && (level != COMPARING || turn == 0); turn++) {
             char sign = text.charAt(at++);
             int right = join(level + 1);
             v = worked(sign, v, right);

@@ -6,6 +6,8 @@ final class TextsTest {
         places();
         longTexts();
         values();
+        binding();
+        bindingInAllKinds();
         recipes();
         pays();
         Check.finish();
@@ -139,9 +141,47 @@ final class TextsTest {
         for (int i = 0; i < texts.length && i < want.length; i++) {
             Check.is("value of " + texts[i], value(texts[i]), want[i]);
         }
-        Check.is("| and & bind alike, from the left", value("1|1&0"), 0);
-        Check.is("but for ( )", value("1|(1&0)"), 1);
         Check.is("least int by -1", value("(1-8192*8192*32-1)/-1"), Integer.MIN_VALUE);
+    }
+
+    /** Each operator between two things binds less than those of the levels behind its own, on both sides of it. */
+    private static void binding() {
+        String[] texts = {"1|1&0", "0&1|1", "0&0|1", "1|0&0", "(1|1)&0", "1&(0|1)", "1|0&0|0", "1|1&0|0", "0&1|1&1",
+            "0|1&1&0", "1&1|1&0", "0&1&1|0", "1|1&1=0", "1|0=0&0", "2&1<2", "3>2&1", "0=0&0", "0|2=2", "1=0|1",
+            "!0|1&0", "!1|1&1", "1|-1&0", "0&0=0", "1|2-2&1", "1<2|3<4&5<4", "1&0+1", "0|3-3", "2*0&1|1", "1|5%5&1"};
+        int[] want = {1, 1, 1, 1, 0, 1, 1, 1, 1,
+            0, 1, 0, 1, 1, 1, 1, 0, 1, 1,
+            1, 1, 1, 0, 1, 1, 1, 0, 1, 1};
+        Check.is("as many", texts.length, want.length);
+        for (int i = 0; i < texts.length && i < want.length; i++) {
+            Check.is("value of " + texts[i], value(texts[i]), want[i]);
+        }
+        Check.is("no < behind another in one of a row of |", Check.text(new RagTown(), 2, 0, "1|1<2<3"), -6);
+        Check.is("no < behind another in one of a row of &", Check.text(new RagTown(), 2, 0, "1|1<2&3=4>5"), -10);
+        Check.is("one < in each", Check.text(new RagTown(), 2, 0, "1<2|3>4&5=6|7<8"), 0);
+    }
+
+    private static void bindingInAllKinds() {
+        RagTown x = new RagTown();
+        x.sort(200, 10, 0, 9, 0, 0, -1);
+        x.sort(10, 200, 0, 50, 0, 0, -1);
+        x.bale(1, 5, 100, 10);
+        x.look(0, 0, 1, 90, 100);
+        Check.text(x, 0, 1, "q|d&k");
+        Check.is("a CONTRACT", x.off(0, 0), 1);
+        Check.text(x, 0, 1, "(q|d)&k");
+        Check.is("a CONTRACT with ( )", x.off(0, 0), 0);
+        Check.text(x, 1, 0, "n=1|m<6&s>40");
+        Check.text(x, 1, 0, "1;(n=1|m<6)&s>40");
+        x.part(0, 12);
+        Check.is("a RECIPE", x.judge(0), -2);
+        Check.is("a RECIPE with ( )", x.judge(1), 1);
+        Check.is("what a RECIPE lets be", x.mix(0, 1, 0, 0), 0);
+        Check.is("what a RECIPE with ( ) doesn't", x.mix(1, 1, 0, 0), -2);
+        Check.text(x, 2, 0, "e|e&n");
+        Check.is("a PAY", x.pay(0), 1);
+        Check.text(x, 2, 0, "(e|e)&n");
+        Check.is("a PAY with ( )", x.pay(0), 0);
     }
 
     private static void recipes() {
