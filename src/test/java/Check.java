@@ -1,3 +1,4 @@
+import java.util.List;
 import java.util.NoSuchElementException;
 
 /** What the tests ask with: each wrong answer is printed, and finish() ends with exit code 1 if there was one. */
@@ -5,8 +6,24 @@ final class Check {
     private static int wrong = 0;
     private static int asked = 0;
 
+    /** What a call answers that throws NoSuchElementException, as answer() tells it. */
+    static final int THROWN = -77777;
+
     interface Call {
         int go();
+    }
+
+    /** A call on a town, and one that is given a number too. */
+    interface Act {
+        int on(RagTown x);
+    }
+
+    interface Given {
+        int on(RagTown x, int v);
+    }
+
+    interface Maker {
+        RagTown make();
     }
 
     private Check() {
@@ -39,6 +56,57 @@ final class Check {
                 wrong++;
                 System.out.println(what + ": another class of exception");
             }
+        }
+    }
+
+    static int answer(RagTown x, Act act) {
+        try {
+            return act.on(x);
+        } catch (NoSuchElementException e) {
+            return e.getClass() == NoSuchElementException.class ? THROWN : THROWN - 1;
+        }
+    }
+
+    /** A call answers that on such a town, and leaves all that can be seen of it as it was. */
+    static void refused(String what, Maker town, Act act, int want) {
+        RagTown x = town.make();
+        is(what, answer(x, act), want);
+        same(what + " changes nothing", Town.seen(x), Town.seen(town.make()));
+    }
+
+    static void taken(String what, Maker town, Act act, int refusal) {
+        no(what + " is refused", answer(town.make(), act) == refusal);
+    }
+
+    /** A number may be least .. most: both ends are taken; the next below and above, and the farthest, refused. */
+    static void ends(String what, Maker town, Given given, int least, int most, int refusal) {
+        for (int v : new int[] {least, most}) {
+            taken(what + " " + v, town, x -> given.on(x, v), refusal);
+        }
+        for (int v : new int[] {least - 1, most + 1, Integer.MIN_VALUE, Integer.MAX_VALUE}) {
+            refused(what + " " + v, town, x -> given.on(x, v), refusal);
+        }
+    }
+
+    /** At most so many: the last one is taken, one more is refused; count(which) tells how many there are. */
+    static void most(String what, int which, int most, int last, Act more) {
+        RagTown x = Town.filled(which, most - 1, more);
+        is(what + ": one place is left", x.count(which), most - 1);
+        is(what + ": the last one", more.on(x), last);
+        is(what + ": full", x.count(which), most);
+        refused(what + ": one more", () -> Town.filled(which, most, more), more, -1);
+    }
+
+    static void same(String what, List<String> got, List<String> want) {
+        asked++;
+        if (!got.equals(want)) {
+            wrong++;
+            int i = 0;
+            while (i < got.size() && i < want.size() && got.get(i).equals(want.get(i))) {
+                i++;
+            }
+            System.out.println(what + ": now " + (i < got.size() ? got.get(i) : "less") + ", before "
+                + (i < want.size() ? want.get(i) : "less"));
         }
     }
 

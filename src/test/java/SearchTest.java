@@ -16,7 +16,7 @@ final class SearchTest {
         for (int i = 0; i < 400; i++) {
             suspects();
         }
-        for (int i = 0; i < 60; i++) {
+        for (int i = 0; i < 120; i++) {
             shares();
         }
         Check.finish();
@@ -80,10 +80,13 @@ final class SearchTest {
         final RagTown x = new RagTown();
         final int[][] sorts;
         final int[] prices;
+        /** Pounds in the STORE. */
+        final int[] pounds;
 
         Rags(int n) {
             sorts = new int[n][6];
             prices = new int[n];
+            pounds = new int[n];
             for (int s = 0; s < n; s++) {
                 int least = upTo(1000);
                 int[] v = {upTo(255), upTo(255), upTo(255), 1 + upTo(98), least, least + upTo(1000 - least)};
@@ -114,6 +117,9 @@ final class SearchTest {
         RagTown x = rags.x;
         x.bale(0, 0, 9999, 0);
         x.open(0, 0, 2, n, upTo(100), upTo(150));
+        for (int s = 0; s < n; s++) {
+            rags.pounds[s] = x.store(s, 0);
+        }
         String recipe = recipeOf(rags);
         Check.is("recipe " + recipe, Check.text(x, 1, 0, recipe), 0);
         int bits = 1 + upTo((1 << n) - 2);
@@ -174,7 +180,7 @@ final class SearchTest {
         int found = least;
         int most = (bits >> s & 1) == 1 ? left : 0;
         for (int some = 0; some <= most; some++) {
-            if ((long) some * p / 12 <= rags.x.store(s, 0)) {
+            if ((long) some * p / 12 <= rags.pounds[s]) {
                 row[s] = some;
                 found = cheapest(rags, recipe, bits, p, row, s + 1, left - some, best, found);
             }
@@ -273,18 +279,26 @@ final class SearchTest {
             int s = upTo(2);
             x.pack(s, 1 + upTo(few), (s + 1) % 3, upTo(few));
         }
+        int[] takes = new int[4];
         for (int land = 0; land < 4; land++) {
-            x.takes(land, upTo(DICE.nextBoolean() ? 2 : 8));
+            takes[land] = upTo(DICE.nextBoolean() ? 2 : 8);
+            x.takes(land, takes[land]);
             for (int s = 0; s < 3; s++) {
                 x.wish(land, s, upTo(few) - 1);
             }
         }
         int n = x.count(8);
+        int[][] gifts = new int[4][n];
+        for (int land = 0; land < 4; land++) {
+            for (int i = 0; i < n; i++) {
+                gifts[land][i] = x.gives(land, i);
+            }
+        }
         long best = -1;
         int first = 0;
         int all = (int) Math.round(Math.pow(5, n));
         for (int code = 0; code < all; code++) {
-            long sum = sumOf(x, n, code);
+            long sum = sumOf(gifts, takes, n, code);
             if (sum > best) {
                 best = sum;
                 first = code;
@@ -298,25 +312,17 @@ final class SearchTest {
     }
 
     /** What a row of LANDS (digits of 5, the first PACK's ahead, 4 for none) gives, or -1 if it can't be. */
-    private static long sumOf(RagTown x, int packs, int code) {
-        int[] left = new int[5];
+    private static long sumOf(int[][] gifts, int[] takes, int packs, int code) {
+        int[] had = new int[5];
         long sum = 0;
         for (int i = packs - 1, rest = code; i >= 0; i--, rest /= 5) {
             int land = rest % 5;
-            left[land]++;
+            had[land]++;
             if (land < 4) {
-                int gift = x.gives(land, i);
-                if (gift < 0) {
+                if (gifts[land][i] < 0 || had[land] > takes[land]) {
                     return -1;
                 }
-                sum += gift;
-            }
-        }
-        for (int land = 0; land < 4; land++) {
-            int takes = x.takes(land, 0);
-            x.takes(land, takes);
-            if (left[land] > takes) {
-                return -1;
+                sum += gifts[land][i];
             }
         }
         return sum;

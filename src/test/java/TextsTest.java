@@ -85,13 +85,6 @@ final class TextsTest {
         }
         Check.is("none was kept", x.count(4), 0);
         Check.is("PAY is still none", x.pay(0), 0);
-        String letters = "ldkoqrgbswvnmpze";
-        for (int i = 0; i < 256; i++) {
-            String sign = String.valueOf((char) i);
-            boolean thing = i >= '0' && i <= '9' || letters.indexOf(i) >= 0;
-            boolean opens = i == '(' || i == '!' || i == '-';
-            Check.is("sign " + i, Check.text(x, 2, 0, sign), thing ? 0 : opens ? -2 : -1);
-        }
     }
 
     private static void longTexts() {
