@@ -8,7 +8,7 @@ import java.util.TreeSet;
 import java.util.function.IntUnaryOperator;
 
 /**
- * A second town, written from the document alone, sentence by sentence and as plainly as can be: lists that grow,
+ * A second town, written after the document, sentence by sentence and as plainly as can be: lists that grow,
  * numbers without an end, every choice tried. TwinTest sets it beside the program.
  */
 public final class PlainTown {
